@@ -23,6 +23,7 @@ public final class PocketCompiler {
     private Program loaded;
     private Program spare;
     private final Parser parser;
+    private final Assembler assembler;
     private int latestFault;
     private int latestPlace = NONE;
     private final Gifts gifts = new Gifts();
@@ -34,10 +35,12 @@ public final class PocketCompiler {
         int size = words >= 256 && words <= 4096 ? words : 1024;
         loaded = new Program(size);
         spare = new Program(size);
-        parser = new Parser(loaded, size);
+        parser = new Parser(loaded);
+        assembler = new Assembler(loaded, size);
         processor = new Processor(size, gifts);
         worker = new Worker(loaded, size, gifts);
-        parser.compile(loaded);
+        parser.readText(loaded);
+        assembler.assemble(loaded);
     }
 
     public boolean feed(int a, int b, int c, int d, int e) {
@@ -70,8 +73,18 @@ public final class PocketCompiler {
     public int load() {
         spare.copyText(tape, taped);
         taped = 0;
-        latestFault = parser.compile(spare);
-        latestPlace = parser.placeOfFault();
+        latestFault = 0;
+        latestPlace = NONE;
+        try {
+            parser.readText(spare);
+        } catch (IllegalStateException refused) {
+            latestFault = parser.tokens.faultKind;
+            latestPlace = parser.tokens.faultPlace;
+        }
+        if (latestFault == 0 && !assembler.assemble(spare)) {
+            latestFault = Tokens.ROOM;
+            latestPlace = spare.length;
+        }
         if (latestFault == 0) {
             Program before = loaded;
             loaded = spare;
@@ -395,15 +408,6 @@ public final class PocketCompiler {
             return (globalFact(g, ADDRESS) >> 2) - wordCount;
         }
 
-        void addDeed(int deed, int x, int y) {
-            if (deedCount < MOST_DEEDS) {
-                deeds[deedCount] = deed;
-                xs[deedCount] = x;
-                ys[deedCount] = y;
-                deedCount++;
-            }
-        }
-
         int wordAt(int i) {
             return i >= 0 && i < wordCount && i < words.length ? words[i] : 0;
         }
@@ -479,8 +483,7 @@ public final class PocketCompiler {
         private static final int SIGN_WIDTH = 3;
         private static final String KEYWORDS =
             "int     if      else    while   do      for     break   continuereturn  put     get     ";
-        private static final String SIGNS = "(  )  {  }  [  ]  ;  ,  ?  :  !  ~  =  += -= *= /= %= &= |= ^= <<=>>="
-            + "+  -  *  /  %  &  |  ^  << >> == != <  <= >  >= && || ";
+        private static final String SIGNS = "(  )  {  }  [  ]  ;  ,  ?  :  !  ~  =  += -= *= /= %= &= |= ^= <<=>>=+  -  *  /  %  &  |  ^  << >> == != <  <= >  >= && || ";
         private static final int[] STRENGTHS = {9, 9, 10, 10, 10, 5, 3, 4, 8, 8, 6, 6, 7, 7, 7, 7, 2, 1};
 
         private static final int MOST_NAME = 16;
@@ -512,7 +515,7 @@ public final class PocketCompiler {
         }
 
         static boolean isNamePart(int c) {
-            return isLetter(c) || isDigit(c);
+            return c >= 'a' && c <= 'z' || c >= 'A' && c <= 'Z' || c == '_' || c >= '0' && c <= '9';
         }
 
         static boolean isSet(int kind) {
@@ -698,49 +701,50 @@ public final class PocketCompiler {
             throw new IllegalStateException("a fault in the text");
         }
 
+        /** Refuses a token that can't stand here, or is none. */
         void refuseMisfit() {
             refuse(kind() == BAD ? NO_TOKEN : MISFIT, place());
         }
 
         void need(int kind) {
             if (kind() != kind) {
-                refuseMisfit();
+                refuse(kind() == BAD ? NO_TOKEN : MISFIT, place());
             }
+        }
+
+        private boolean isTooMuch() {
+            return at >= MOST_TOKENS || at == dueAt;
         }
 
         /** Goes behind a token that can stand here; what BOUND says of it comes after all else but LOOP. */
         void take() {
-            if (at >= MOST_TOKENS || at == dueAt) {
+            if (isTooMuch()) {
                 refuse(BOUND, place());
             }
             at++;
         }
 
         void expect(int kind) {
-            need(kind);
-            take();
+            if (kind() != kind) {
+                refuse(kind() == BAD ? NO_TOKEN : MISFIT, place());
+            }
+            if (isTooMuch()) {
+                refuse(BOUND, place());
+            }
+            at++;
         }
 
+        /** Goes behind a token that opens something. */
         void open() {
-            if (opened >= MOST_OPEN) {
+            if (opened >= MOST_OPEN || isTooMuch()) {
                 refuse(BOUND, place());
             }
             opened++;
-            take();
-        }
-
-        void expectOpen(int kind) {
-            need(kind);
-            open();
+            at++;
         }
 
         void close() {
             opened--;
-        }
-
-        void expectClose(int kind) {
-            expect(kind);
-            close();
         }
 
         /** The token that is looked at is one too much, if nothing worse is said of it. */
@@ -815,29 +819,21 @@ public final class PocketCompiler {
             return knownCount + putBy;
         }
 
-        boolean hasSlots(int wanted) {
-            return nextSlot() + wanted <= MOST_SLOTS;
-        }
-
-        void wantSlots(int wanted) {
-            mostSlots = Math.max(mostSlots, nextSlot() + wanted);
-        }
-
-        void add(int deed) {
-            program.addDeed(deed, 0, 0);
-        }
-
-        void add(int deed, int x) {
-            program.addDeed(deed, x, 0);
+        /** So many slots more are wanted; whether there are so many. */
+        boolean wantSlots(int wanted) {
+            int slots = knownCount + putBy + wanted;
+            mostSlots = Math.max(mostSlots, slots);
+            return slots <= MOST_SLOTS;
         }
 
         void add(int deed, int x, int y) {
-            program.addDeed(deed, x, y);
-        }
-
-        void putHandBy() {
-            add(Program.KEEP, nextSlot());
-            putBy++;
+            int k = program.deedCount;
+            if (k >= 0 && k < Program.MOST_DEEDS) {
+                program.deeds[k] = deed;
+                program.xs[k] = x;
+                program.ys[k] = y;
+                program.deedCount = k + 1;
+            }
         }
 
         int newLabel() {
@@ -925,7 +921,10 @@ public final class PocketCompiler {
                 return;
             }
             for (int k = 0; k < MOST_TOKENS && Tokens.strength(tokens.kind()) > 0; k++) {
-                leftSideDone(floor);
+                int sign = tokens.kind();
+                finishSigns(floor, Tokens.strength(sign));
+                beginSign(sign);
+                tokens.take();
                 operand(false);
             }
             finishSigns(floor, 0);
@@ -934,26 +933,21 @@ public final class PocketCompiler {
             }
         }
 
-        private void leftSideDone(int floor) {
-            int sign = tokens.kind();
-            finishSigns(floor, Tokens.strength(sign));
+        /** The left side of an operator is done. */
+        private void beginSign(int sign) {
             if (sign == Tokens.BOTH || sign == Tokens.EITHER) {
                 int label = builder.newLabel();
-                builder.add(sign == Tokens.BOTH ? Program.UNLESS : Program.EITHER, label);
+                builder.add(sign == Tokens.BOTH ? Program.UNLESS : Program.EITHER, label, 0);
                 push(sign, label);
-            } else {
-                wantSlots(1);
-                push(sign, builder.nextSlot());
-                builder.putHandBy();
+                return;
             }
-            tokens.take();
-        }
-
-        private void wantSlots(int wanted) {
-            if (!builder.hasSlots(wanted)) {
+            int slot = builder.nextSlot();
+            if (!builder.wantSlots(1)) {
                 tokens.refuse(Tokens.BOUND, tokens.place());
             }
-            builder.wantSlots(wanted);
+            builder.add(Program.KEEP, slot, 0);
+            builder.putBy++;
+            push(sign, slot);
         }
 
         private void push(int sign, int mark) {
@@ -969,7 +963,7 @@ public final class PocketCompiler {
             for (int k = top - 1; k >= floor && k >= 0 && Tokens.strength(signs[k]) >= strength; k--) {
                 top = k;
                 if (signs[k] == Tokens.BOTH || signs[k] == Tokens.EITHER) {
-                    builder.add(Program.TRUTH);
+                    builder.add(Program.TRUTH, 0, 0);
                     builder.setLabel(marks[k]);
                 } else {
                     builder.putBy--;
@@ -982,10 +976,10 @@ public final class PocketCompiler {
             int other = builder.newLabel();
             int behind = builder.newLabel();
             tokens.open();
-            builder.add(Program.UNLESS, other);
+            builder.add(Program.UNLESS, other, 0);
             expression(true);
             tokens.expect(Tokens.COLON);
-            builder.add(Program.JUMP, behind);
+            builder.add(Program.JUMP, behind, 0);
             builder.setLabel(other);
             expression(false);
             builder.setLabel(behind);
@@ -1006,7 +1000,7 @@ public final class PocketCompiler {
                     return false;
                 case Tokens.NUMBER:
                 case Tokens.CHARACTER:
-                    builder.add(Program.NUMBER, tokens.value());
+                    builder.add(Program.NUMBER, tokens.value(), 0);
                     tokens.take();
                     return false;
                 case Tokens.HUGE:
@@ -1014,14 +1008,17 @@ public final class PocketCompiler {
                     return false;
                 case Tokens.GET:
                     tokens.take();
-                    tokens.expectOpen(Tokens.ROUND);
-                    tokens.expectClose(Tokens.ROUND_END);
-                    builder.add(Program.GET);
+                    tokens.need(Tokens.ROUND);
+                    tokens.open();
+                    tokens.expect(Tokens.ROUND_END);
+                    tokens.close();
+                    builder.add(Program.GET, 0, 0);
                     return false;
                 case Tokens.ROUND:
                     tokens.open();
                     expression(true);
-                    tokens.expectClose(Tokens.ROUND_END);
+                    tokens.expect(Tokens.ROUND_END);
+                    tokens.close();
                     return false;
                 case Tokens.NAME:
                     return named(settable);
@@ -1035,7 +1032,7 @@ public final class PocketCompiler {
             tokens.open();
             operand(false);
             tokens.close();
-            builder.add(deed);
+            builder.add(deed, 0, 0);
         }
 
         private boolean named(boolean settable) {
@@ -1063,7 +1060,7 @@ public final class PocketCompiler {
                 return true;
             }
             if (isRow) {
-                builder.add(Program.FETCH, global);
+                builder.add(Program.FETCH, global, 0);
             } else {
                 read(slot, global);
             }
@@ -1073,22 +1070,25 @@ public final class PocketCompiler {
         private void index(int global) {
             tokens.open();
             expression(true);
-            tokens.expectClose(Tokens.SQUARE_END);
-            builder.add(Program.INDEX, global);
+            tokens.expect(Tokens.SQUARE_END);
+            tokens.close();
+            builder.add(Program.INDEX, global, 0);
         }
 
         private void read(int slot, int global) {
             if (slot != NONE) {
-                builder.add(Program.LOCAL, slot);
+                builder.add(Program.LOCAL, slot, 0);
             } else {
-                builder.add(Program.VARIABLE, global);
+                builder.add(Program.VARIABLE, global, 0);
             }
         }
 
         private void change(int slot, int global, boolean isRow) {
             int set = tokens.kind();
             boolean isPlain = set == Tokens.ASSIGN;
-            wantSlots((isRow ? 1 : 0) + (isPlain ? 0 : 1));
+            if (!builder.wantSlots((isRow ? 1 : 0) + (isPlain ? 0 : 1))) {
+                tokens.refuse(Tokens.BOUND, tokens.place());
+            }
             tokens.open();
             int held = builder.nextSlot();
             if (isRow) {
@@ -1102,25 +1102,27 @@ public final class PocketCompiler {
             }
             if (isRow) {
                 builder.putBy--;
-                builder.add(Program.LAY, held);
+                builder.add(Program.LAY, held, 0);
             } else if (slot != NONE) {
-                builder.add(Program.KEEP, slot);
+                builder.add(Program.KEEP, slot, 0);
             } else {
-                builder.add(Program.STORE, global);
+                builder.add(Program.STORE, global, 0);
             }
             tokens.close();
         }
 
-        private void changeBy(int sign, int slot, int global, boolean isRow) {
+        private void changeBy(int sign, int local, int global, boolean isRow) {
             if (isRow) {
-                builder.add(Program.PEEK);
+                builder.add(Program.PEEK, 0, 0);
             } else {
-                read(slot, global);
+                read(local, global);
             }
-            builder.putHandBy();
+            int slot = builder.nextSlot();
+            builder.add(Program.KEEP, slot, 0);
+            builder.putBy++;
             expression(true);
             builder.putBy--;
-            builder.add(Program.BINARY, sign, builder.nextSlot());
+            builder.add(Program.BINARY, sign, slot);
         }
 
         private void callFunction() {
@@ -1138,19 +1140,20 @@ public final class PocketCompiler {
                     arguments++;
                 }
             }
-            tokens.expectClose(Tokens.ROUND_END);
+            tokens.expect(Tokens.ROUND_END);
+            tokens.close();
             builder.putBy -= arguments;
             builder.add(Program.CALL, call, first);
         }
 
         private void argument(int call, int k) {
-            if (k >= MOST_ARGUMENTS || !builder.hasSlots(1)) {
+            if (!builder.wantSlots(1) || k >= MOST_ARGUMENTS) {
                 tokens.makeDue();
             }
-            builder.wantSlots(1);
             builder.addArgument(call);
             expression(true);
-            builder.putHandBy();
+            builder.add(Program.KEEP, builder.nextSlot(), 0);
+            builder.putBy++;
         }
     }
 
@@ -1163,46 +1166,33 @@ public final class PocketCompiler {
         private final Tokens tokens;
         private final Builder builder;
         private final Expressions expressions;
-        private final Assembler assembler;
         private int breakTo;
         private int continueTo;
         private int returnTo;
 
-        Parser(Program program, int memoryWords) {
+        Parser(Program program) {
             this.program = program;
             tokens = new Tokens(program);
             builder = new Builder(program);
             expressions = new Expressions(tokens, builder);
-            assembler = new Assembler(program, memoryWords);
         }
 
-        /** The fault of the program's text; 0: there is none, and all of the program has been made. */
-        int compile(Program text) {
+        /** Makes a program of its text, but for the words. */
+        void readText(Program text) {
             program = text;
             tokens.scan(text);
             builder.begin(text);
             expressions.begin();
-            try {
-                wholeText();
-            } catch (IllegalStateException refused) {
-                return tokens.faultKind;
-            }
-            return 0;
-        }
-
-        int placeOfFault() {
-            return tokens.faultPlace;
-        }
-
-        private void wholeText() {
             for (int k = 0; k < MOST_TOKENS && tokens.kind() != Tokens.END; k++) {
-                item();
+                int behind = headOfItem();
+                if (behind == Tokens.ROUND) {
+                    functionItem();
+                } else {
+                    globalItem(behind);
+                }
             }
             checkCalls();
             builder.link();
-            if (!assembler.assemble(program)) {
-                tokens.refuse(Tokens.ROOM, program.length);
-            }
         }
 
         private void checkCalls() {
@@ -1216,33 +1206,27 @@ public final class PocketCompiler {
             }
         }
 
-        private void item() {
+        /** What stands behind an item's NAME, which is left to be taken. */
+        private int headOfItem() {
             tokens.expect(Tokens.INT);
             tokens.need(Tokens.NAME);
             int name = tokens.value();
             if (program.functionNamed(name) != NONE || program.globalNamed(name) != NONE) {
                 tokens.refuse(Tokens.NAME_FAULT, tokens.place());
             }
-            int behind = tokens.kindBehind();
-            if (behind == Tokens.ROUND) {
-                functionItem();
-            } else if (behind == Tokens.SQUARE || behind == Tokens.SEMICOLON) {
-                globalItem();
-            } else {
-                tokens.take();
-                tokens.refuseMisfit();
-            }
+            return tokens.kindBehind();
         }
 
-        private void globalItem() {
+        private void globalItem(int behind) {
             int g = program.globalCount;
-            if (g >= MOST_GLOBALS) {
+            boolean isRow = behind == Tokens.SQUARE;
+            boolean isGlobal = isRow || behind == Tokens.SEMICOLON;
+            if (isGlobal && g >= MOST_GLOBALS) {
                 tokens.refuse(Tokens.BOUND, tokens.place());
             }
             program.changeGlobal(g, Program.NAME, tokens.value());
             program.changeGlobal(g, Program.PLACE, tokens.place());
             tokens.take();
-            boolean isRow = tokens.kind() == Tokens.SQUARE;
             program.changeGlobal(g, Program.ROW, isRow ? 1 : 0);
             program.changeGlobal(g, Program.SIZE, isRow ? rowSize() : 1);
             tokens.expect(Tokens.SEMICOLON);
@@ -1260,7 +1244,8 @@ public final class PocketCompiler {
                 tokens.refuse(Tokens.BOUND, tokens.place());
             }
             tokens.take();
-            tokens.expectClose(Tokens.SQUARE_END);
+            tokens.expect(Tokens.SQUARE_END);
+            tokens.close();
             return size;
         }
 
@@ -1277,16 +1262,18 @@ public final class PocketCompiler {
             parameters();
             program.changeFunction(f, Program.PARAMETERS, builder.knownCount);
             program.changeFunction(f, Program.ENTRY, program.deedCount);
-            builder.add(Program.ENTER, f);
+            builder.add(Program.ENTER, f, 0);
             breakTo = NONE;
             continueTo = NONE;
             returnTo = builder.newLabel();
-            tokens.expectOpen(Tokens.CURLY);
+            tokens.need(Tokens.CURLY);
+            tokens.open();
             stats();
-            tokens.expectClose(Tokens.CURLY_END);
-            builder.add(Program.NUMBER, 0);
+            tokens.expect(Tokens.CURLY_END);
+            tokens.close();
+            builder.add(Program.NUMBER, 0, 0);
             builder.setLabel(returnTo);
-            builder.add(Program.LEAVE);
+            builder.add(Program.LEAVE, 0, 0);
             program.changeFunction(f, Program.FRAME, builder.frame());
         }
 
@@ -1299,7 +1286,8 @@ public final class PocketCompiler {
                     parameter();
                 }
             }
-            tokens.expectClose(Tokens.ROUND_END);
+            tokens.expect(Tokens.ROUND_END);
+            tokens.close();
         }
 
         private void parameter() {
@@ -1323,10 +1311,9 @@ public final class PocketCompiler {
         }
 
         private void wantSlot() {
-            if (!builder.hasSlots(1)) {
+            if (!builder.wantSlots(1)) {
                 tokens.refuse(Tokens.BOUND, tokens.place());
             }
-            builder.wantSlots(1);
         }
 
         private void stats() {
@@ -1367,7 +1354,7 @@ public final class PocketCompiler {
                 case Tokens.PUT:
                     tokens.take();
                     condition();
-                    builder.add(Program.PUT);
+                    builder.add(Program.PUT, 0, 0);
                     tokens.expect(Tokens.SEMICOLON);
                     break;
                 case Tokens.SEMICOLON:
@@ -1386,7 +1373,8 @@ public final class PocketCompiler {
             builder.blockStart = count;
             tokens.open();
             stats();
-            tokens.expectClose(Tokens.CURLY_END);
+            tokens.expect(Tokens.CURLY_END);
+            tokens.close();
             builder.knownCount = count;
             builder.blockStart = start;
         }
@@ -1411,29 +1399,31 @@ public final class PocketCompiler {
                 tokens.take();
                 expressions.expression(true);
             } else {
-                builder.add(Program.NUMBER, 0);
+                builder.add(Program.NUMBER, 0, 0);
             }
-            builder.add(Program.KEEP, slot);
+            builder.add(Program.KEEP, slot, 0);
             tokens.expect(Tokens.SEMICOLON);
             builder.learn(name);
         }
 
         private void condition() {
-            tokens.expectOpen(Tokens.ROUND);
+            tokens.need(Tokens.ROUND);
+            tokens.open();
             expressions.expression(true);
-            tokens.expectClose(Tokens.ROUND_END);
+            tokens.expect(Tokens.ROUND_END);
+            tokens.close();
         }
 
         private void ifStat() {
             int other = builder.newLabel();
             tokens.open();
             condition();
-            builder.add(Program.UNLESS, other);
+            builder.add(Program.UNLESS, other, 0);
             innerStat();
             if (tokens.kind() == Tokens.ELSE) {
                 int behind = builder.newLabel();
                 tokens.take();
-                builder.add(Program.JUMP, behind);
+                builder.add(Program.JUMP, behind, 0);
                 builder.setLabel(other);
                 innerStat();
                 builder.setLabel(behind);
@@ -1464,45 +1454,47 @@ public final class PocketCompiler {
 
         private void whileRest() {
             builder.setLabel(continueTo);
-            builder.add(Program.TURN);
+            builder.add(Program.TURN, 0, 0);
             condition();
-            builder.add(Program.UNLESS, breakTo);
+            builder.add(Program.UNLESS, breakTo, 0);
             innerStat();
-            builder.add(Program.JUMP, continueTo);
+            builder.add(Program.JUMP, continueTo, 0);
         }
 
         private void doRest() {
             int again = builder.newLabel();
             builder.setLabel(again);
-            builder.add(Program.TURN);
+            builder.add(Program.TURN, 0, 0);
             innerStat();
             builder.setLabel(continueTo);
             tokens.expect(Tokens.WHILE);
             condition();
-            builder.add(Program.AGAIN, again);
+            builder.add(Program.AGAIN, again, 0);
             tokens.expect(Tokens.SEMICOLON);
         }
 
         private void forRest() {
             int again = builder.newLabel();
             int body = builder.newLabel();
-            tokens.expectOpen(Tokens.ROUND);
+            tokens.need(Tokens.ROUND);
+            tokens.open();
             optional(Tokens.SEMICOLON);
             tokens.expect(Tokens.SEMICOLON);
             builder.setLabel(again);
-            builder.add(Program.TURN);
+            builder.add(Program.TURN, 0, 0);
             if (optional(Tokens.SEMICOLON)) {
-                builder.add(Program.UNLESS, breakTo);
+                builder.add(Program.UNLESS, breakTo, 0);
             }
             tokens.expect(Tokens.SEMICOLON);
-            builder.add(Program.JUMP, body);
+            builder.add(Program.JUMP, body, 0);
             builder.setLabel(continueTo);
             optional(Tokens.ROUND_END);
-            tokens.expectClose(Tokens.ROUND_END);
-            builder.add(Program.JUMP, again);
+            tokens.expect(Tokens.ROUND_END);
+            tokens.close();
+            builder.add(Program.JUMP, again, 0);
             builder.setLabel(body);
             innerStat();
-            builder.add(Program.JUMP, continueTo);
+            builder.add(Program.JUMP, continueTo, 0);
         }
 
         /** Reads an E, if what would end it does not stand there at once; whether there was one. */
@@ -1520,16 +1512,18 @@ public final class PocketCompiler {
             if (label == NONE) {
                 tokens.refuse(Tokens.LOOP, place);
             }
-            builder.add(Program.JUMP, label);
+            builder.add(Program.JUMP, label, 0);
             tokens.expect(Tokens.SEMICOLON);
         }
 
         private void returnStat() {
             tokens.take();
-            if (!optional(Tokens.SEMICOLON)) {
-                builder.add(Program.NUMBER, 0);
+            if (tokens.kind() == Tokens.SEMICOLON) {
+                builder.add(Program.NUMBER, 0, 0);
+            } else {
+                expressions.expression(true);
             }
-            builder.add(Program.JUMP, returnTo);
+            builder.add(Program.JUMP, returnTo, 0);
             tokens.expect(Tokens.SEMICOLON);
         }
     }
@@ -1810,7 +1804,8 @@ public final class PocketCompiler {
             upper(T1, numbers);
             immediate(ADDI, T1, T1, low(numbers));
             branch(BLTU, A0, T1, 12);
-            halt(3);
+            immediate(ADDI, A7, Z, 3);
+            emit(EBREAK);
             immediate(SLLI, A0, A0, 2);
             upper(T1, address);
             three(ADD, A0, A0, T1);
@@ -1978,9 +1973,7 @@ public final class PocketCompiler {
         static final int ILLEGAL = 40;
 
         static final int NAME_WIDTH = 6;
-        static final String NAMES = "lui   auipc jal   jalr  beq   bne   blt   bge   bltu  bgeu  lb    lh    lw    "
-            + "lbu   lhu   sb    sh    sw    addi  slti  sltiu xori  ori   andi  slli  srli  srai  add   sub   "
-            + "sll   slt   sltu  xor   srl   sra   or    and   fence ecall ebreakword  ";
+        static final String NAMES = "lui   auipc jal   jalr  beq   bne   blt   bge   bltu  bgeu  lb    lh    lw    lbu   lhu   sb    sh    sw    addi  slti  sltiu xori  ori   andi  slli  srli  srai  add   sub   sll   slt   sltu  xor   srl   sra   or    and   fence ecall ebreakword  ";
 
         // By bits 14 to 12.
         private static final int[] BRANCHES = {BEQ, BNE, ILLEGAL, ILLEGAL, BLT, BGE, BLTU, BGEU};
