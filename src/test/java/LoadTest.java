@@ -1,0 +1,90 @@
+/** Promises 4, 5, 7, 8: load, fault, function, global. */
+public final class LoadTest {
+    private static final int NONE = PocketCompiler.NONE;
+
+    public static void main(String[] args) {
+        Check check = new Check();
+        emptyTexts(check);
+        whatStaysAndWhatGoes(check);
+        facts(check);
+        check.end();
+    }
+
+    private static void emptyTexts(Check check) {
+        for (String text : new String[] {"", " \t\r\n", "// a note", "// a note\n", "//\n//", "// \u00ff $ '\n "}) {
+            PocketCompiler x = Check.loaded(256, text);
+            check.same("words", x.count(1), 2);
+            check.same("functions", x.count(2), 0);
+            check.same("globals", x.count(3), 0);
+            check.same("LIMIT", x.count(4), 8);
+            check.same("no fault", x.fault(0), 0);
+            check.same("no place", x.fault(1), NONE);
+        }
+    }
+
+    private static void whatStaysAndWhatGoes(Check check) {
+        PocketCompiler x = Check.loaded(256, "int v; int f(int a) { v = a; put(a); return a + 1; }");
+        x.start(0, 5, 0);
+        x.run(100);
+        x.work(0, 5, 0, 10);
+        int words = x.count(1);
+
+        check.same("a fault", Check.load(x, "int f() { return 1 +; }"), 2);
+        check.same("its number", x.fault(0), 2);
+        check.same("its place", x.fault(1), 20);
+        check.same("no other what", x.fault(2), NONE);
+        check.same("no other what", x.fault(-1), NONE);
+        check.same("the tape is empty", x.count(0), 0);
+        check.same("words stay", x.count(1), words);
+        check.same("function stays", x.function(0, 0), 1);
+        check.same("work is told", x.told(1), 6);
+        check.same("work put", x.worked(0), 5);
+        check.same("work left", x.left(0, 0), 5);
+        check.same("and can go on", x.work(0, 7, 0, 10), 0);
+
+        check.same("another text", Check.load(x, "int w; int g() {}"), 0);
+        check.same("no fault", x.fault(0), 0);
+        check.same("no place", x.fault(1), NONE);
+        check.same("no other what", x.fault(2), NONE);
+        check.same("the tape is empty", x.count(0), 0);
+        for (int what = 0; what <= 5; what++) {
+            check.same("nothing told", x.told(what), NONE);
+        }
+        check.fails("nothing worked", java.util.NoSuchElementException.class, () -> x.worked(0));
+        check.fails("nothing left", java.util.NoSuchElementException.class, () -> x.left(0, 0));
+        check.same("the processor stays", x.count(5), 1);
+        check.same("its result", x.result(), 6);
+        check.same("its numbers put", x.put(0), 5);
+        check.same("its memory", x.word(4 * (words - 1)), 0x00008067);
+        check.same("an empty tape is a text", x.load(), 0);
+        check.same("without functions", x.count(2), 0);
+    }
+
+    private static void facts(Check check) {
+        PocketCompiler x = Check.loaded(1024,
+            "int v; int r[7]; int f() {} int one[1]; int g(int a, int b, int c) { int d; } int w;");
+        int[][] functions = {{0, 8, 8, 21}, {3, 64, 24, 44}};
+        int[][] globals = {{1, 152, 0, 4}, {7, 156, 1, 11}, {1, 184, 1, 32}, {1, 188, 0, 82}};
+        for (int what = 0; what <= 3; what++) {
+            for (int f = 0; f < 2; f++) {
+                check.same("function " + f + " " + what, x.function(f, what), functions[f][what]);
+            }
+            for (int g = 0; g < 4; g++) {
+                check.same("global " + g + " " + what, x.global(g, what), globals[g][what]);
+            }
+        }
+        check.same("LIMIT", x.count(4), 192);
+        for (int none : new int[] {-1, 4, Integer.MIN_VALUE, Integer.MAX_VALUE}) {
+            check.same("function 0 " + none, x.function(0, none), NONE);
+            check.same("global 0 " + none, x.global(0, none), NONE);
+            check.same("function " + none, x.function(none, 0), NONE);
+            check.same("global " + none, x.global(none, 0), NONE);
+        }
+        check.same("function 2", x.function(2, 0), NONE);
+        check.same("words of code", x.count(1), 38);
+        check.same("behind the code", x.code(38), 0);
+        check.same("far behind", x.code(Integer.MAX_VALUE), 0);
+        check.fails("ahead of it", IndexOutOfBoundsException.class, () -> x.code(-1));
+        check.fails("far ahead", IndexOutOfBoundsException.class, () -> x.code(Integer.MIN_VALUE));
+    }
+}
