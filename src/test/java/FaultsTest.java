@@ -46,7 +46,7 @@ public final class FaultsTest {
     private static void tokens() {
         fine("int abcdefghijklmnop;");
         due(1, "int @abcdefghijklmnopq;");
-        fine("int _;int _1;int A_z9;");
+        fine("int _;int _1;int azAZ_09;int z;int Z;int Z_;int Z0Z;");
         due(1, "@$");
         due(1, "int a; @\u0080");
         due(1, "int a; @\u0000");
@@ -321,6 +321,13 @@ public final class FaultsTest {
         fineIn("if (v) ; else ".repeat(38) + ";");
         dueIn(5, "if (v) ; else ".repeat(38) + "if @(v) ;");
         // What has ended is not open any more.
+        fineIn("for (;;) ".repeat(38) + ";");
+        fineIn("while (v) ".repeat(38) + ";");
+        fineIn("do ".repeat(37) + ";" + " while (v);".repeat(37));
+        fineIn("get(); ".repeat(41) + "put(1); ".repeat(41) + "f(1); ".repeat(41) + "r[1]; ".repeat(41));
+        fineIn("do ; while (v); ".repeat(41) + "while (v) ; ".repeat(41) + "for (;;) ; ".repeat(41));
+        fineIn("(v); ".repeat(41) + "!v; ".repeat(41) + "~v; ".repeat(41) + "r[1] += 1; ".repeat(41));
+        fine(many(40, "int f", "(int a, int b) { { } }") + many(41, "int g", "[1];"));
         fineIn("if (v) ; ".repeat(50) + "v = 1; ".repeat(50) + "-1 + -1; ".repeat(50) + "v ? 1 : 2; ".repeat(20));
     }
 

@@ -7,6 +7,7 @@ public final class LoadTest {
         emptyTexts(check);
         whatStaysAndWhatGoes(check);
         facts(check);
+        nothingIsLeftOfOtherTexts(check);
         check.end();
     }
 
@@ -86,5 +87,35 @@ public final class LoadTest {
         check.same("far behind", x.code(Integer.MAX_VALUE), 0);
         check.fails("ahead of it", IndexOutOfBoundsException.class, () -> x.code(-1));
         check.fails("far ahead", IndexOutOfBoundsException.class, () -> x.code(Integer.MIN_VALUE));
+    }
+
+    /** What a text becomes does not depend on the texts ahead of it, be they with a fault or without. */
+    private static void nothingIsLeftOfOtherTexts(Check check) {
+        String text = "int v; int f(int a) { int b = a || 1 && a; while (b) { b = b * (a + f(b - 1)); break; } }";
+        PocketCompiler fresh = Check.loaded(1024, text);
+        String due = Check.listing(fresh, 0, fresh.count(1));
+        String[] others = {"int f(int a) { { while (1) { return a + (1 * (2 - f(3, [", "int g; int g;",
+            "int f(int a) { int b; if (1) { int c; a = b += c ? 1 : ", "int r[1000]; int s[1000];",
+            "int f() { g(1); } int h(int a) { }", "int q; int g() { return g() / q * g(); }",
+            "int f() {" + "0||0;".repeat(350) + "}", "int f() {" + "0&&0;".repeat(350) + "} $",
+            "int f() {" + "0||0;".repeat(350) + "}", "int f() {" + "0&&0;".repeat(350) + "} ,",
+            "int f() {" + "f();".repeat(350) + "}", "int f() {" + "f();".repeat(350) + "} )"};
+        PocketCompiler x = new PocketCompiler(4096);
+        for (String other : others) {
+            Check.load(x, other);
+        }
+        PocketCompiler y = new PocketCompiler(1024);
+        for (String other : others) {
+            if (other.length() < 100) {
+                Check.load(y, other);
+                check.same("load", Check.load(y, text), 0);
+                check.same("FRAME", y.function(0, 2), fresh.function(0, 2));
+                check.same("globals", y.count(3), 1);
+            }
+        }
+        check.same("load", Check.load(x, text), 0);
+        check.same("code", Check.listing(x, 0, x.count(1)), due);
+        check.same("code", Check.listing(y, 0, y.count(1)), due);
+        check.same("work", x.work(0, 1, 0, 10), y.work(0, 1, 0, 10));
     }
 }

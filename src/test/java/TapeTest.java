@@ -22,6 +22,8 @@ public final class TapeTest {
         check.yes("one less", x.end(3999));
         check.no("still too many", x.feed(0, 0, 0, 0, 0));
         check.same("none came", x.count(0), 3999);
+        check.yes("19 less", x.end(3981));
+        check.no("4,001 bytes", x.feed(0, 0, 0, 0, 0));
         check.yes("20 less", x.end(3980));
         check.yes("now they fit", x.feed(0, 0, 0, 0, 0));
         check.same("bytes", x.count(0), 4000);
