@@ -17,6 +17,7 @@ public final class CodeTest {
         slots();
         divisions();
         farAddresses();
+        farJumps();
         CHECK.end();
     }
 
@@ -71,6 +72,8 @@ public final class CodeTest {
         due("0xfffff7ff;", "lui x10, 1048575; addi x10, x10, 2047");
         due("0x80000000;", "lui x10, 524288; addi x10, x10, 0");
         due("0x12345FFF;", "lui x10, 74566; addi x10, x10, -1");
+        due("0xABCDEF;", "lui x10, 2749; addi x10, x10, -529");
+        due("0xabcdef;", "lui x10, 2749; addi x10, x10, -529");
         due("'A';", "addi x10, x0, 65");
         due("get();", "addi x17, x0, 2; ecall");
     }
@@ -246,6 +249,13 @@ public final class CodeTest {
         CHECK.same("MUL, DIV", listing(both, both.count(1) - 36, both.count(1)), times + "; " + over);
         PocketCompiler none = Check.loaded(1024, HEAD + "'*'; '/'; } // * / %");
         CHECK.same("neither", listing(none, none.count(1) - 1, none.count(1)), "jalr x0, 0(x1)");
+    }
+
+    private static void farJumps() {
+        PocketCompiler x = Check.loaded(4096, "int f(int a) { while (a) {" + "2048;".repeat(700) + "} f(1); }");
+        CHECK.same("over the stat", listing(x, 13, 16), "lw x10, -12(x8); bne x10, x0, 8; jal x0, 5608");
+        CHECK.same("back", listing(x, 1416, 1417), "jal x0, -5612");
+        CHECK.same("a call", listing(x, 1420, 1421), "jal x1, -5672");
     }
 
     /** Addresses whose lower part is below 0, and whose upper part is not 0. */

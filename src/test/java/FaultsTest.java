@@ -63,7 +63,9 @@ public final class FaultsTest {
         dueIn(1, "return @0X1;");
         dueIn(1, "return @0x1g;");
         dueIn(1, "return @0x123456789;");
-        fineIn("return 0x12345678 + 0xaBcDeF;");
+        fineIn("return 0x12345678 + 0x90aBcDeF + 0xAbCdEf + 0x0 + 0x9 + 0xa + 0xA + 0xf + 0xF;");
+        dueIn(1, "return @0xG;");
+        dueIn(1, "return @0x/;");
         fineIn("return ' ' + '~' + '/' + '\"';");
         dueIn(1, "return @'';");
         dueIn(1, "return @''';");
@@ -103,6 +105,10 @@ public final class FaultsTest {
         due(2, "int a(int b @[ 1 ]) { }");
         dueIn(2, "@else v;");
         dueIn(2, "if @v v;");
+        dueIn(2, "while @v v;");
+        dueIn(2, "do v; while @v;");
+        dueIn(2, "for @v; v; v) v;");
+        dueIn(2, "get @;");
         dueIn(2, "if (@) v;");
         dueIn(2, "if (v) v; else v; @else v;");
         dueIn(2, "if (v) @}");
@@ -159,6 +165,10 @@ public final class FaultsTest {
         due(3, "int f(int a) { int @a; }");
         due(3, "int f() { int a; int b; int @a; }");
         due(3, "int f() { { int a; int @a; } }");
+        due(3, "int f() { int a; { int b; } int @a; }");
+        due(3, "int f(int a) { { int b; } int @a; }");
+        due(3, "int f() { int a; if (1) int b; int @a; }");
+        due(3, "int f() { int a; while (1) { int b; } int @a; }");
         fine("int f() { { int a; } int a; }");
         due(3, "int f() { return @a; }");
         due(3, "int f() { return @a; } int a;");
@@ -211,6 +221,10 @@ public final class FaultsTest {
         due(4, "int f(int a) { @f(1, g()); }");
         due(2, "int f(int a) { f(); g(); @) }");
         due(6, "int f(int a) { f(); @break; }");
+        String many = ("f(".repeat(39) + "1" + ")".repeat(39) + "; ").repeat(11);
+        fineIn(many);
+        dueIn(3, many + "@zz();");
+        dueIn(4, many + "@f();");
     }
 
     private static void numbersAndRows() {
@@ -328,7 +342,8 @@ public final class FaultsTest {
         fineIn("do ; while (v); ".repeat(41) + "while (v) ; ".repeat(41) + "for (;;) ; ".repeat(41));
         fineIn("(v); ".repeat(41) + "!v; ".repeat(41) + "~v; ".repeat(41) + "r[1] += 1; ".repeat(41));
         fine(many(40, "int f", "(int a, int b) { { } }") + many(41, "int g", "[1];"));
-        fineIn("if (v) ; ".repeat(50) + "v = 1; ".repeat(50) + "-1 + -1; ".repeat(50) + "v ? 1 : 2; ".repeat(20));
+        fineIn("if (v) ; ".repeat(41) + "v = 1; ".repeat(41) + "-1 + -1; ".repeat(41));
+        fineIn("v ? 1 : 2; ".repeat(41) + "{ } ".repeat(41) + "if (v) ; else ; ".repeat(41));
     }
 
     private static String locals(int count) {

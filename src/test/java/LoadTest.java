@@ -8,6 +8,7 @@ public final class LoadTest {
         whatStaysAndWhatGoes(check);
         facts(check);
         nothingIsLeftOfOtherTexts(check);
+        aTextOfTheMostBytes(check);
         check.end();
     }
 
@@ -99,7 +100,9 @@ public final class LoadTest {
             "int f() { g(1); } int h(int a) { }", "int q; int g() { return g() / q * g(); }",
             "int f() {" + "0||0;".repeat(350) + "}", "int f() {" + "0&&0;".repeat(350) + "} $",
             "int f() {" + "0||0;".repeat(350) + "}", "int f() {" + "0&&0;".repeat(350) + "} ,",
-            "int f() {" + "f();".repeat(350) + "}", "int f() {" + "f();".repeat(350) + "} )"};
+            "int f() {" + "f();".repeat(350) + "}", "int f() {" + "f();".repeat(350) + "} )",
+            "int f() {" + "1|1^1&1==1<1<<1+1*(".repeat(38), "int f() {" + "1|1^1&1==1<1<<1+1*(".repeat(38),
+            "int f(int a) { { int b; { int c; { int d; $"};
         PocketCompiler x = new PocketCompiler(4096);
         for (String other : others) {
             Check.load(x, other);
@@ -117,5 +120,20 @@ public final class LoadTest {
         check.same("code", Check.listing(x, 0, x.count(1)), due);
         check.same("code", Check.listing(y, 0, y.count(1)), due);
         check.same("work", x.work(0, 1, 0, 10), y.work(0, 1, 0, 10));
+        check.same("a fault", Check.load(y, others[others.length - 1]), 1);
+        check.same("told again", Check.load(y, "int f(int a, int a) { }"), 3);
+        check.same("neither MUL nor DIV", Check.load(y, "int f() { return 1; }"), 0);
+        check.same("words", y.count(1), 18);
+    }
+
+    private static void aTextOfTheMostBytes(Check check) {
+        String text = "int f() { return 7; }" + " ".repeat(3978);
+        PocketCompiler x = Check.loaded(256, text + "\n");
+        check.same("work", x.work(0, 0, 0, 1), 0);
+        check.same("value", x.told(1), 7);
+        check.same("a fault at the last byte", Check.load(x, text + "}"), 2);
+        check.same("its place", x.fault(1), 3999);
+        check.same("a fault behind it", Check.load(x, text.substring(0, 20) + " ".repeat(3980)), 2);
+        check.same("its place", x.fault(1), 4000);
     }
 }

@@ -22,6 +22,7 @@ public final class WorkTest {
         putsAndGets();
         leaves();
         wrongCalls();
+        longText();
         CHECK.end();
     }
 
@@ -309,5 +310,19 @@ public final class WorkTest {
         }
         PocketCompiler y = new PocketCompiler(256);
         CHECK.fails("no function", NoSuchElementException.class, () -> y.work(0, 0, 0, 1));
+    }
+
+    /** As many deeds as the tokens of one text can bring. */
+    private static void longText() {
+        PocketCompiler x = Check.loaded(4096, "int f(int p) { " + ("p+=".repeat(39) + "1;").repeat(18) + " return p; }");
+        CHECK.same("work", x.work(0, 5, 0, 1), VALUE);
+        int due = 5;
+        for (int k = 0; k < 18; k++) {
+            due = 39 * due + 1;
+        }
+        CHECK.same("value", x.told(1), due);
+        x.start(0, 5, 0);
+        x.run(50000);
+        CHECK.same("result", x.result(), due);
     }
 }
