@@ -74,8 +74,9 @@ final class Check {
         return x;
     }
 
-    /** The text of show(). */
-    static String shown(PocketCompiler x, int word) {
+    /** The text of show(), by an object of its own: the one that is looked at has no calls to spare. */
+    static String shown(int word) {
+        PocketCompiler x = new PocketCompiler(256);
         int size = x.show(word);
         StringBuilder text = new StringBuilder();
         for (int k = 0; k < size; k++) {
@@ -88,7 +89,7 @@ final class Check {
     static String listing(PocketCompiler x, int from, int to) {
         StringBuilder text = new StringBuilder();
         for (int k = from; k < to; k++) {
-            text.append(shown(x, x.code(k))).append('\n');
+            text.append(shown(x.code(k))).append('\n');
         }
         return text.toString();
     }

@@ -103,25 +103,22 @@ public final class LoadTest {
             "int f() {" + "f();".repeat(350) + "}", "int f() {" + "f();".repeat(350) + "} )",
             "int f() {" + "1|1^1&1==1<1<<1+1*(".repeat(38), "int f() {" + "1|1^1&1==1<1<<1+1*(".repeat(38),
             "int f(int a) { { int b; { int c; { int d; $"};
-        PocketCompiler x = new PocketCompiler(4096);
         for (String other : others) {
+            PocketCompiler x = new PocketCompiler(1024);
             Check.load(x, other);
+            Check.load(x, other);
+            check.same("load", Check.load(x, text), 0);
+            check.same("code", Check.listing(x, 0, x.count(1)), due);
+            check.same("FRAME", x.function(0, 2), fresh.function(0, 2));
+            check.same("functions", x.count(2), 1);
+            check.same("globals", x.count(3), 1);
+            check.same("work", x.work(0, 1, 0, 10), 0);
+            check.same("turns", x.told(2), 4);
         }
         PocketCompiler y = new PocketCompiler(1024);
-        for (String other : others) {
-            if (other.length() < 100) {
-                Check.load(y, other);
-                check.same("load", Check.load(y, text), 0);
-                check.same("FRAME", y.function(0, 2), fresh.function(0, 2));
-                check.same("globals", y.count(3), 1);
-            }
-        }
-        check.same("load", Check.load(x, text), 0);
-        check.same("code", Check.listing(x, 0, x.count(1)), due);
-        check.same("code", Check.listing(y, 0, y.count(1)), due);
-        check.same("work", x.work(0, 1, 0, 10), y.work(0, 1, 0, 10));
         check.same("a fault", Check.load(y, others[others.length - 1]), 1);
         check.same("told again", Check.load(y, "int f(int a, int a) { }"), 3);
+        check.same("with MUL", Check.load(y, text), 0);
         check.same("neither MUL nor DIV", Check.load(y, "int f() { return 1; }"), 0);
         check.same("words", y.count(1), 18);
     }
@@ -131,9 +128,10 @@ public final class LoadTest {
         PocketCompiler x = Check.loaded(256, text + "\n");
         check.same("work", x.work(0, 0, 0, 1), 0);
         check.same("value", x.told(1), 7);
-        check.same("a fault at the last byte", Check.load(x, text + "}"), 2);
-        check.same("its place", x.fault(1), 3999);
-        check.same("a fault behind it", Check.load(x, text.substring(0, 20) + " ".repeat(3980)), 2);
-        check.same("its place", x.fault(1), 4000);
+        PocketCompiler y = new PocketCompiler(256);
+        check.same("a fault at the last byte", Check.load(y, text + "}"), 2);
+        check.same("its place", y.fault(1), 3999);
+        check.same("a fault behind it", Check.load(y, text.substring(0, 20) + " ".repeat(3980)), 2);
+        check.same("its place", y.fault(1), 4000);
     }
 }

@@ -356,9 +356,10 @@ public final class ProcessorTest {
         CHECK.same("nothing happens", x.word(800), 5);
         CHECK.same("nothing happens", x.register(9), 9);
         CHECK.yes("start", x.start(1, 11, 22));
-        for (int k = 0; k < 254; k++) {
+        for (int k = 0; k < 200; k++) {
             CHECK.same("code, then 0s", x.word(4 * k), x.code(k));
         }
+        CHECK.same("0 ahead of the arguments", x.word(1012), 0);
         CHECK.same("first argument", x.word(1020), 11);
         CHECK.same("second argument", x.word(1016), 22);
         for (int k = 0; k < 32; k++) {

@@ -1,10 +1,8 @@
 /** Promises 21, 22: show, octet. */
 public final class ShowTest {
     private static final Check CHECK = new Check();
-    private static final PocketCompiler X = new PocketCompiler(256);
 
     public static void main(String[] args) {
-        CHECK.same("no text yet", X.octet(0), PocketCompiler.NONE);
         plain();
         numbered();
         reaching();
@@ -16,7 +14,7 @@ public final class ShowTest {
     }
 
     private static void due(int word, String text) {
-        CHECK.same(Integer.toHexString(word), Check.shown(X, word), text);
+        CHECK.same(Integer.toHexString(word), Check.shown(word), text);
     }
 
     private static void plain() {
@@ -119,6 +117,7 @@ public final class ShowTest {
 
     private static void octets() {
         PocketCompiler x = new PocketCompiler(256);
+        CHECK.same("no text yet", x.octet(0), PocketCompiler.NONE);
         CHECK.same("bytes", x.show(0x00100073), 6);
         CHECK.same("first", x.octet(0), 'e');
         CHECK.same("last", x.octet(5), 'k');
