@@ -1,9 +1,5 @@
 /** Promises 4, 5: each sort of FAULT, its place, and which one comes first. */
-public final class FaultsTest {
-    private static final Check CHECK = new Check();
-    private static final int WORDS = 4096;
-    private static final String HEAD = "int v; int r[3]; int g() {} int f(int p) { ";
-
+public final class FaultsTest extends FaultChecks {
     public static void main(String[] args) {
         tokens();
         grammar();
@@ -18,29 +14,6 @@ public final class FaultsTest {
         loops();
         room();
         CHECK.end();
-    }
-
-    /** The text's fault is at the place marked by a @, which is taken out; without one there is none. */
-    private static void due(int fault, String marked) {
-        int place = marked.indexOf('@');
-        String text = marked.replace("@", "");
-        PocketCompiler x = new PocketCompiler(WORDS);
-        String shown = text.length() > 90 ? text.substring(0, 40) + " .. " + text.substring(text.length() - 40) : text;
-        CHECK.same("fault of " + shown, Check.load(x, text), fault);
-        CHECK.same("place of " + shown, x.fault(1), place);
-    }
-
-    private static void fine(String text) {
-        due(0, text);
-    }
-
-    /** A body of a function beside which a variable v, a row r of 3 and functions f(p), g() are told. */
-    private static void dueIn(int fault, String body) {
-        due(fault, HEAD + body + " }");
-    }
-
-    private static void fineIn(String body) {
-        dueIn(0, body);
     }
 
     private static void tokens() {
@@ -248,14 +221,6 @@ public final class FaultsTest {
         due(2, "int a[2] @[2];");
     }
 
-    private static String many(int count, String before, String behind) {
-        StringBuilder text = new StringBuilder();
-        for (int k = 0; k < count; k++) {
-            text.append(before).append(k).append(behind);
-        }
-        return text.toString();
-    }
-
     private static void items() {
         fine(many(40, "int f", "(){}") + many(60, "int g", ";"));
         due(5, many(40, "int f", "(){}") + "int @f(){}");
@@ -344,29 +309,6 @@ public final class FaultsTest {
         fine(many(40, "int f", "(int a, int b) { { } }") + many(41, "int g", "[1];"));
         fineIn("if (v) ; ".repeat(41) + "v = 1; ".repeat(41) + "-1 + -1; ".repeat(41));
         fineIn("v ? 1 : 2; ".repeat(41) + "{ } ".repeat(41) + "if (v) ; else ; ".repeat(41));
-    }
-
-    private static String locals(int count) {
-        StringBuilder text = new StringBuilder();
-        for (int k = 0; k < count; k++) {
-            text.append("int ").append((char) ('A' + k / 26)).append((char) ('a' + k % 26)).append(';');
-        }
-        return text.toString();
-    }
-
-    /** So many slots of the weakest operators, the strongest last; then what is told, in as many ( ). */
-    private static String deep(int slots, String inner) {
-        String[] signs = {"|", "^", "&", "==", "<", "<<", "+", "*"};
-        StringBuilder text = new StringBuilder();
-        int open = 0;
-        for (int k = 0; k < slots; k++) {
-            text.append("1").append(signs[k % 8]);
-            if (k % 8 == 7) {
-                text.append('(');
-                open++;
-            }
-        }
-        return text + inner + ")".repeat(open) + ";";
     }
 
     private static void slots() {
