@@ -37,6 +37,7 @@ public final class MeaningEdgesTest {
         told();
         left();
         thrown();
+        lastOnes();
         CHECK.end();
     }
 
@@ -631,5 +632,29 @@ public final class MeaningEdgesTest {
         CHECK.same("left", x.left(0, 0), 3);
         CHECK.same("n 0 is none of these", x.work(0, 0, 0, 0), CUT);
         CHECK.same("n 20,000 is none of these", x.work(0, 0, 0, 20000), VALUE);
+    }
+
+    /** The 40th function and the 60th global are like others; there is none behind them. */
+    private static void lastOnes() {
+        StringBuilder text = new StringBuilder();
+        for (int k = 0; k < 60; k++) {
+            text.append("int g").append(k).append(k == 58 ? "[3];" : ";");
+        }
+        for (int k = 0; k < 40; k++) {
+            text.append("int f").append(k).append("(int a){").append(k == 39 ? "g59=a;g58[2]=a+1;g0=a+2;return f0(a);}" : "return 5;}");
+        }
+        PocketCompiler x = Check.loaded(1024, text.toString());
+        CHECK.same("work", x.work(39, 8, 0, 2), VALUE);
+        CHECK.same("value", x.told(1), 5);
+        CHECK.same("the last global", x.left(59, 0), 8);
+        CHECK.same("the row ahead of it", x.left(58, 2), 9);
+        CHECK.same("the first global", x.left(0, 0), 10);
+        CHECK.yes("start", x.start(39, 8, 0));
+        x.run(1000);
+        CHECK.same("result", x.result(), 5);
+        CHECK.same("the last global", x.word(x.count(4) - 4), 8);
+        CHECK.fails("no 41st function", NoSuchElementException.class, () -> x.work(40, 8, 0, 2));
+        CHECK.no("no 41st function", x.start(40, 8, 0));
+        CHECK.fails("no 61st global", NoSuchElementException.class, () -> x.left(60, 0));
     }
 }
