@@ -300,11 +300,17 @@ public final class CodeEdgesTest {
         for (int i : new int[] {-1, -2, LEAST}) {
             CHECK.fails("code " + i, IndexOutOfBoundsException.class, () -> x.code(i));
         }
-        // A shorter text leaves no words of a longer one.
-        CHECK.same("an empty text", Check.load(x, ""), 0);
-        CHECK.same("second", x.code(1), 0x00100073);
-        CHECK.same("behind it", x.code(2), 0);
-        CHECK.same("behind it", x.code(words - 1), 0);
+        // A shorter text leaves no words of a longer one, however often that was loaded.
+        for (int again = 0; again < 3; again++) {
+            CHECK.same("the longer text", Check.load(x, "int v; int f() { v = 5; v = 6; v = 7; }"), 0);
+        }
+        for (String shorter : new String[] {"int v; int f() { v = 5; }", "int f() { }", ""}) {
+            CHECK.same("a shorter text", Check.load(x, shorter), 0);
+            for (int i = x.count(1); i < 30; i++) {
+                CHECK.same("behind the shorter one " + i, x.code(i), 0);
+            }
+            CHECK.yes("its last word", x.code(x.count(1) - 1) != 0);
+        }
         // The last word that the largest memory lets be.
         PocketCompiler y = Check.loaded(4096, "int f(){" + "2048;".repeat(740) + "}");
         CHECK.same("last", y.code(y.count(1) - 1), 0x00008067);

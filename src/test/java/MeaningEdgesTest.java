@@ -38,6 +38,7 @@ public final class MeaningEdgesTest {
         left();
         thrown();
         lastOnes();
+        fullMemory();
         CHECK.end();
     }
 
@@ -656,5 +657,31 @@ public final class MeaningEdgesTest {
         CHECK.fails("no 41st function", NoSuchElementException.class, () -> x.work(40, 8, 0, 2));
         CHECK.no("no 41st function", x.start(40, 8, 0));
         CHECK.fails("no 61st global", NoSuchElementException.class, () -> x.left(60, 0));
+    }
+
+    /** As many globals as ROOM lets be: each number is its own, up to the last one. */
+    private static void fullMemory() {
+        String body = "int f(int a) { r[a] = a + 1; s[2] = 7; v = 9; w = r[a] * 2; return r[a] + s[2] + v + w; }";
+        for (int words : new int[] {256, 1024}) {
+            int code = Check.loaded(1024, "int v; int r[9]; int s[3]; int w; " + body).count(1);
+            int size = words - 16 - 5 - code;
+            PocketCompiler x = Check.loaded(words, "int v; int r[" + size + "]; int s[3]; int w; " + body);
+            CHECK.same("LIMIT", x.count(4), 4 * words - 64);
+            for (int a : new int[] {0, 1, size / 2, size - 2, size - 1}) {
+                int due = 3 * (a + 1) + 16;
+                CHECK.same("work", x.work(0, a, 0, 1), VALUE);
+                CHECK.same("value", x.told(1), due);
+                int[][] left = {{0, 0, 9}, {1, 0, a == 0 ? 1 : 0}, {1, a, a + 1}, {1, size - 1, a == size - 1 ? size : 0}, {2, 0, 0},
+                    {2, 2, 7}, {3, 0, 2 * a + 2}};
+                x.start(0, a, 0);
+                x.run(5000);
+                CHECK.same("result", x.result(), due);
+                for (int[] l : left) {
+                    CHECK.same("left " + l[0] + " " + l[1], x.left(l[0], l[1]), l[2]);
+                    CHECK.same("word " + l[0] + " " + l[1], x.word(x.global(l[0], 1) + 4 * l[1]), l[2]);
+                }
+            }
+            CHECK.same("behind the row", x.work(0, size, 0, 1), INDEX);
+        }
     }
 }
